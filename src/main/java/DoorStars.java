@@ -1117,7 +1117,7 @@ public final class DoorStars {
 
         /** Good until it is asked for the next one. */
         Fraction habitOf(int inspector) {
-            habit.put(determinant(0, 0, inspector), determinant(0, 0, NO_COLUMN));
+            habit.put(determinant(matrix, right, inspector, 0, 0), determinant(matrix, right, NO_COLUMN, 0, 0));
             return habit;
         }
 
@@ -1158,16 +1158,16 @@ public final class DoorStars {
             right[inspector] = 0;
         }
 
-        /** By the first row's cofactors; the replaced column is the right side. The row is the depth. */
-        private long determinant(int row, int usedColumns, int replaced) {
+        /** By cofactors, from this row (the depth) down, without the used columns; one may be replaced. */
+        private static long determinant(long[] rows, long[] other, int replaced, int row, int used) {
             if (row >= INSPECTORS) return 1;
             long sum = 0;
             long sign = 1;
             for (int column = 0; column < INSPECTORS; column++) {
-                if ((usedColumns >> column & 1) != 0) continue;
-                long entry = column == replaced ? right[row] : matrix[row * INSPECTORS + column];
-                if (entry != 0) {
-                    sum += sign * entry * determinant(row + 1, usedColumns | 1 << column, replaced);
+                if ((used >> column & 1) != 0) continue;
+                long factor = column == replaced ? other[row] : rows[row * INSPECTORS + column];
+                if (factor != 0) {
+                    sum += sign * factor * determinant(rows, other, replaced, row + 1, used | 1 << column);
                 }
                 sign = -sign;
             }
@@ -1182,6 +1182,7 @@ public final class DoorStars {
         private final int[] fromDays = new int[MOST_COMPLAINTS];
         private final int[] toDays = new int[MOST_COMPLAINTS];
         private final int[] dishes = new int[MOST_COMPLAINTS];
+        private final int[] weights = new int[MOST_KITCHENS];
         private final Fraction share = new Fraction();
         private int size = 0;
 
@@ -1211,15 +1212,16 @@ public final class DoorStars {
 
         /** Good until it is asked for the next one. */
         Fraction shareOf(int complaint, int kitchen) {
-            share.put(weightOf(complaint, kitchen), wholeOf(complaint));
+            int whole = weighAll(complaint);
+            share.put(weights[kitchen], whole);
             return share;
         }
 
         /** More than a half is more than all the others, so only one KITCHEN can have it. */
         int kitchenOf(int complaint) {
-            int whole = wholeOf(complaint);
+            int whole = weighAll(complaint);
             for (int kitchen = 0; kitchen < kitchens.size(); kitchen++) {
-                if (2 * weightOf(complaint, kitchen) > whole) return kitchen;
+                if (2 * weights[kitchen] > whole) return kitchen;
             }
             return NONE;
         }
@@ -1232,9 +1234,13 @@ public final class DoorStars {
             return sum;
         }
 
-        private int wholeOf(int complaint) {
+        /** What all the weights make together. */
+        private int weighAll(int complaint) {
             int sum = 0;
-            for (int kitchen = 0; kitchen < kitchens.size(); kitchen++) sum += weightOf(complaint, kitchen);
+            for (int kitchen = 0; kitchen < kitchens.size(); kitchen++) {
+                weights[kitchen] = weightOf(complaint, kitchen);
+                sum += weights[kitchen];
+            }
             return sum;
         }
 
