@@ -84,6 +84,24 @@ public final class ComplaintsTest {
         DUE.is("joined(0) to none", x.joined(0), -9);
     }
 
+    /** Every kitchen is shut eight times inside the days of the complaint. */
+    private static void manyShuts() {
+        DoorStars x = new DoorStars();
+        for (int k = 0; k < 20; k++) {
+            x.kitchen(0, k / 18, 10, 0, 1);
+            for (int s = 7; s >= 0; s--) x.shut(k, 10 * s + 5, 10 * s + 5 + k % 2);
+        }
+        x.complaint(0, 0, 99, 0);
+        x.complaint(1, 0, 99, 0);
+        // 92 days or 84 are open
+        part(x, 0, 0, 23, 9 * 44);
+        part(x, 0, 17, 7, 3 * 44);
+        part(x, 1, 18, 23, 44);
+        part(x, 1, 19, 21, 44);
+        DUE.is("joined(1)", x.joined(1), 18);
+        DUE.is("joined(0)", x.joined(0), -9);
+    }
+
     private static void joined() {
         DoorStars x = new DoorStars();
         DUE.is("joined(0) of none", x.joined(0), -1);
@@ -114,6 +132,7 @@ public final class ComplaintsTest {
         shut();
         complaint();
         parts();
+        manyShuts();
         joined();
         DUE.finish();
     }

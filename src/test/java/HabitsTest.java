@@ -174,6 +174,19 @@ public final class HabitsTest {
         DUE.is("no habits, none other", x.others(), 0);
     }
 
+    private static void evenedFirst() {
+        DoorStars x = town(2);
+        look(x, 0, 1, 7);
+        look(x, 1, 0, 5);
+        look(x, 1, 1, 8);
+        DUE.is("evened ahead of any habit", x.evened(0, 0), 4);
+        x.table(0, 5, 5, 5, 5);
+        DUE.is("the first look is the latest of its kitchen", x.others(), 1);
+        x.back(2);
+        DUE.is("evened when the double is gone", x.evened(0, 0), 7);
+        DUE.is("others then", x.others(), 0);
+    }
+
     private static void trulyBelow() {
         DoorStars x = town(2);
         look(x, 0, 0, 0);
@@ -223,6 +236,7 @@ public final class HabitsTest {
         wide();
         ownDays();
         others();
+        evenedFirst();
         trulyBelow();
         swap();
         DUE.finish();

@@ -93,6 +93,28 @@ public final class HelpedTest {
         DUE.is("then it is not so sure", x.helped(), 0);
     }
 
+    private static void oneMoreThanFew() {
+        DoorStars x = new DoorStars();
+        int[] months = {7, 0, 1, 4, 9, 12};
+        for (int s = 0; s < 6; s++) x.began(s, months[s]);
+        int[] cases = {0, 2, 6, 0, 3, 6, 0, 5, 2, 1, 10, 2, 2, 2, 2, 4, 1, 6, 5, 0, 1, 5, 9, 6};
+        for (int i = 0; i < cases.length; i += 3) x.cases(cases[i], cases[i + 1], cases[i + 2]);
+        effect(x, -37951, 27720);
+        DUE.is("37 ways", x.chance(), 37);
+        DUE.is("are too many", x.helped(), 0);
+    }
+
+    private static void firstStreetNever() {
+        DoorStars x = new DoorStars();
+        for (int s = 1; s < 6; s++) x.began(s, 2 * s);
+        x.cases(0, 0, 6);
+        x.cases(5, 11, 2);
+        // street 0 falls by 6 by 2, 4, 6, 8 and 10; street 5 rises by 1
+        effect(x, (6 * (60 + 30 + 20 + 15 + 12) + 120) / 6, 5 * 120 / 6);
+        x.began(0, 6);
+        DUE.is("none never began", x.effect(0), REFUSED + 3);
+    }
+
     private static void noneHelped() {
         DoorStars x = new DoorStars();
         for (int s = 0; s < 3; s++) {
@@ -169,6 +191,8 @@ public final class HelpedTest {
         effectOrNone();
         effectOfOne();
         chances();
+        oneMoreThanFew();
+        firstStreetNever();
         noneHelped();
         monthsOfOthers();
         count();

@@ -61,6 +61,20 @@ public final class RoundsTest {
         DUE.is("by inspector 1", x.roundOf(2, 1, 1), 2);
     }
 
+    private static void theLeastCost() {
+        DoorStars x = new DoorStars();
+        x.kitchen(0, 0, 1, 0, 0);
+        x.base(0, 1);
+        x.table(0, 1, 1, 1, 1);
+        x.look(0, 0, 0);
+        x.days(393);
+        DUE.is("due", x.risk(0, 1), 400);
+        DUE.is("due is not ahead", x.roundOf(1, 0, 0), -9);
+        x.days(1);
+        DUE.is("a cost of 1 at now and 7", x.delay(0, 401), 1);
+        DUE.is("it is among these", x.roundOf(1, 0, 0), 394);
+    }
+
     private static void sixAtMost() {
         DoorStars x = kitchens(36, 35, 35, 34, 36, 35, 36, 35);
         x.capacity(9);
@@ -146,6 +160,7 @@ public final class RoundsTest {
         capacity();
         refusals();
         dueAheadOfTheWeek();
+        theLeastCost();
         sixAtMost();
         tooMany();
         alike();

@@ -40,6 +40,7 @@ public final class StarsTest {
         x.table(5, 0, 0, 1, 1);
         x.table(10, 0, 1, 1, 1);
         x.table(20, 1, 1, 1, 1);
+        x.table(7, 0, 0, 1, 1);
         x.days(30);
         int[] days = {0, 4, 5, 9, 10, 19, 20, 30};
         int[] due = {0, 0, 3, 3, 4, 4, 5, 5};
@@ -160,6 +161,13 @@ public final class StarsTest {
         x.base(0, 19);
         x.look(2, 0, 50);
         DUE.is("400 by 19, cut", x.risk(2, 1), 50 + 21);
+        x.base(0, 1);
+        DUE.is("the least risk", x.risk(2, 0), 1);
+        DUE.is("its span", x.risk(2, 1), 50 + 400);
+        x.base(0, 19);
+        x.back(2);
+        x.look(2, 0, 49);
+        DUE.is("no table on that day: 400 by 43 is below 20", x.risk(2, 1), 49 + 20);
     }
 
     private static void delay() {
