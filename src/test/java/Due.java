@@ -5,22 +5,25 @@ final class Due {
 
     void is(String call, long got, long want) {
         asked++;
-        if (got != want) {
-            wrong++;
-            if (wrong <= 50) System.out.println("  " + call + " answered " + got + ", due is " + want);
-        }
+        if (got != want) tell(call + " answered " + got + ", due is " + want);
     }
 
     void holds(String what, boolean so) {
         is(what, so ? 1 : 0, 1);
     }
 
-    boolean isClean() {
-        return wrong == 0;
+    void same(String what, String got, String want) {
+        asked++;
+        if (!got.equals(want)) tell(what + ": " + got);
     }
 
     void finish() {
         System.out.println("  " + asked + " answers, " + wrong + " not as due");
         if (wrong != 0 || asked == 0) System.exit(1);
+    }
+
+    private void tell(String line) {
+        wrong++;
+        if (wrong <= 50) System.out.println("  " + line);
     }
 }
