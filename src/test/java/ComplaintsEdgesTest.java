@@ -84,6 +84,8 @@ public final class ComplaintsEdgesTest {
                 .end();
         two("both SHUT: 0 by 1").did("shut(0, 10, 19)", "shut(1, 0, 1500)").fraction("part", "0, 0", 0, 1)
                 .fraction("part", "0, 1", 0, 1).due("joined(0)", -9).end();
+        two("both SHUT later: 0 by 1 for a half").fraction("part", "0, 0", 1, 2).did("shut(0, 10, 19)", "shut(1, 10, 19)")
+                .due("part(0, 1, 1)", 1).due("part(0, 1, 0)", 0).fraction("part", "0, 0", 0, 1).end();
         run("a COMPLAINT of one DAY").did(KITCHEN, KITCHEN, "complaint(0, 5, 5, 0)", "shut(0, 4, 4)", "shut(0, 6, 6)")
                 .fraction("part", "0, 0", 1, 2).did("shut(0, 5, 5)").fraction("part", "0, 0", 0, 1)
                 .fraction("part", "0, 1", 1, 1).due("joined(0)", 1).end();
@@ -91,6 +93,13 @@ public final class ComplaintsEdgesTest {
         for (int day = 17; day >= 10; day--) eight.did("shut(0, " + (2 * day - 16) + ", " + (2 * day - 16) + ")");
         // 4, 6, 8, 10, .. 18: five of its DAYS
         eight.fraction("part", "0, 0", 1, 3).end();
+        Run inside = run("SHUT eight times inside, open on its first DAY and its last").did(KITCHEN, KITCHEN,
+                "complaint(0, 0, 16, 0)");
+        for (int day = 15; day > 0; day -= 2) inside.did("shut(0, " + day + ", " + day + ")");
+        inside.fraction("part", "0, 0", 9, 26).fraction("part", "0, 1", 17, 26).due("joined(0)", 1).end();
+        Run last = run("the last KITCHEN SHUT eight times").times(20, KITCHEN).did("complaint(0, 0, 16, 0)");
+        for (int day = 1; day < 16; day += 2) last.did("shut(19, " + day + ", " + day + ")");
+        last.fraction("part", "0, 19", 9, 19 * 17 + 9).fraction("part", "0, 18", 17, 19 * 17 + 9).end();
         run("a COMPLAINT of the first DAY, and of the last").did(KITCHEN, KITCHEN, "complaint(0, 0, 0, 0)",
                 "complaint(0, 1500, 1500, 0)", "shut(0, 0, 0)").fraction("part", "0, 0", 0, 1)
                 .fraction("part", "1, 0", 1, 2).did("shut(1, 1500, 1500)").fraction("part", "1, 1", 0, 1).end();

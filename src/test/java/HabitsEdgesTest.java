@@ -44,6 +44,8 @@ public final class HabitsEdgesTest {
                 .refused("habit(4, 0)", -3).end();
         pair("P25: -3 its DOUBLE counts no more", 2, 5).did("back(0)").refused("habit(0, 0)", -3)
                 .refused("habit(1, 1)", -3).end();
+        pair("P25: -3 its DOUBLE counts no more, though it was told ahead of that", 2, 5).fraction("habit", "1", 3, 1)
+                .did("back(1)").refused("habit(1, 0)", -3).refused("habit(0, 1)", -3).due("others()", 0).end();
         run("P25: -3 without a LOOK").refused("habit(0, 0)", -3).refused("habit(4, 1)", -3).end();
         pair("P25: -1, -2, -3 in this order", 2, 5).refused("habit(5, 2)", -1).refused("habit(-1, -1)", -1)
                 .refused("habit(2, 2)", -2).refused("habit(2, -1)", -2).end();
@@ -88,6 +90,8 @@ public final class HabitsEdgesTest {
         run("P27: nothing").due("others()", 0).did("table(0, 1, 2, 3, 4)").due("others()", 0).end();
         look(pair("P27: of KITCHENS with a STAR now", 2, 5), 1, 1, 5).due("others()", 0).did("table(0, 3, 3, 3, 3)")
                 .due("others()", 2).did("back(2)").due("others()", 1).end();
+        look(look(look(run("P27: by LOOK 0"), 1, 1, 5), 0, 0, 2), 0, 1, 5).did("table(0, 3, 3, 3, 3)").due("others()", 2)
+                .end();
         pair("P27: without a TABLE on its DAY there is no STAR", 2, 5).did("table(1, 3, 3, 3, 3)", "days(1)")
                 .due("star(0, 1, 1)", 0).due("others()", 0).end();
         pair("P27: 2 for 5 is not below 2", 2, 5).did("table(0, 2, 2, 2, 2)").due("others()", 0).end();

@@ -68,6 +68,8 @@ public final class HelpedEdgesTest {
         began(run("EFFECT: STREETS that never began by how many there are"), 6).did("cases(1, 6, 6)")
                 .fraction("effect", "", -1, 5).did("began(2, 0)").fraction("effect", "", -1, 4).did("began(3, 0)",
                 "began(4, 0)", "began(5, 0)").fraction("effect", "", -1, 1).end();
+        began(run("EFFECT: STREET 0 alone never began"), 12, 6, 6, 6, 6, 6).did("cases(0, 6, 6)")
+                .fraction("effect", "", -1, 1).did("began(0, 6)").refused("effect(0)", -3).end();
         began(run("EFFECT: the mean over these STREETS"), 6, 6).did("cases(0, 6, 6)").fraction("effect", "", 1, 2)
                 .did("began(2, 6)").fraction("effect", "", 1, 3).did("began(3, 0)").fraction("effect", "", 1, 3).end();
         Run greatest = began(run("EFFECT: the greatest"), 6);

@@ -64,6 +64,10 @@ public final class RoundsEdgesTest {
                 .due("roundOf(1, 0, 0)", 16).end();
         dueAt20("COST 0 on the first DAY only").did("days(20)").due("rounds(1)", 0).did("days(1)").due("rounds(1)", 20)
                 .due("roundOf(1, 0, 0)", 21).end();
+        run("a COST of 1 at now and 7: among these").did("kitchen(0, 0, 1, 0, 0)", "base(0, 1)", "table(0, 1, 1, 1, 1)",
+                "look(0, 0, 0)", "days(393)").due("delay(0, 400)", 0).due("roundOf(1, 0, 0)", -9).did("days(1)")
+                .due("delay(0, 401)", 1).due("roundOf(1, 0, 0)", 394).due("rounds(1)", 0).did("kin(0, 0, true)")
+                .due("rounds(1)", 2).end();
         alike("not in this week: COST as at now and 7, twice", 1).did("kin(0, 0, true)").due("rounds(1)", 2 * 7 * 34)
                 .did("days(22)").due("rounds(1)", 2 * 29 * 34).did("days(1)").due("rounds(1)", 2 * (30 * 34 + 3 * 34))
                 .end();
