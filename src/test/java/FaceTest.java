@@ -42,6 +42,7 @@ public final class FaceTest {
             if (!hidden) DUE.holds(method + " is public, not static", Modifier.isPublic(method.getModifiers())
                     && !Modifier.isStatic(method.getModifiers()));
             if (hidden) DUE.holds(method + " has a name of its own", !names.contains(method.getName()));
+            DUE.holds(method + " takes seven at most", method.getParameterCount() <= 7);
         }
         DUE.holds("the methods are " + due + " but were " + got, got.equals(due));
         DUE.holds("the class is public and final", Modifier.isPublic(DoorStars.class.getModifiers())

@@ -17,6 +17,10 @@ public final class LanguageTest {
         "\\bhashCode\\b", "\\btoString\\b", "static \\{", "while *\\(true\\)", "for *\\(;;"
     };
 
+    // what the program takes of the library today; LANGUAGE.md, rule 4, says what more it may take
+    private static final List<String> LIBRARY = List.of(
+            "Arrays.fill", "Integer.bitCount", "Math.abs", "Math.floorMod", "Math.max", "Math.min");
+
     private static String withoutComments(String text) {
         return text.replaceAll("(?s)/\\*.*?\\*/", "").replaceAll("//[^\n]*", "");
     }
@@ -31,6 +35,11 @@ public final class LanguageTest {
             String name = imports.group(1);
             DUE.holds("import " + name, List.of("java.util.Arrays", "java.util.ArrayList", "java.util.List").contains(name));
         }
+    }
+
+    private static void library(String code) {
+        Matcher used = Pattern.compile("(?<![\\w.])[A-Z][a-z]\\w*\\.\\w+").matcher(code);
+        while (used.find()) DUE.holds("of the library: " + used.group(), LIBRARY.contains(used.group()));
     }
 
     private static void statics(String code) {
@@ -67,6 +76,7 @@ public final class LanguageTest {
         }
         String code = withoutComments(text);
         barredWords(code);
+        library(code.replaceAll("import [^;]*;", ""));
         statics(code);
         lengths(text);
         DUE.finish();
